@@ -1,0 +1,93 @@
+public final class P17SetTest {
+    public static void main(String[] args) {
+        Check t = new Check();
+        wrongInputs(t);
+        converts(t);
+        onlyClassesInIssue(t);
+        noSetIsStable(t);
+        firstOfSeveralStableOnes(t);
+        t.end();
+    }
+
+    private static void wrongInputs(Check t) {
+        StableSale x = new StableSale();
+        t.throwsArgument(() -> x.set(-1));
+        t.throwsArgument(() -> x.set(2000000001));
+        t.throwsArgument(() -> x.set(Integer.MIN_VALUE));
+        t.throwsArgument(() -> x.set(Integer.MAX_VALUE));
+        t.due(0, x.set(0));
+        t.due(0, x.set(2000000000));
+    }
+
+    private static void converts(Check t) {
+        StableSale x = new StableSale();
+        x.preferred(10, 100, 0, 0, 100, 0);
+        x.issue(0, 0, 100, 10);
+        x.issue(1, 1, 100, 10);
+        t.due(0, x.set(0));
+        t.due(0, x.set(100000));
+        t.due(0, x.set(200000));
+        // The odd unit goes to the common shares: converting would bring no more.
+        t.due(0, x.set(200001));
+        t.due(1, x.set(200002));
+        t.due(1, x.set(2000000000));
+        x.issue(0, 0, 100, 10);
+        t.due(0, x.set(300001));
+        t.due(1, x.set(300003));
+
+        StableSale full = new StableSale();
+        full.preferred(10, 100, 0, 1, 100, 0);
+        full.issue(0, 0, 100, 10);
+        full.issue(1, 1, 100, 10);
+        t.due(0, full.set(2000000000));
+    }
+
+    private static void onlyClassesInIssue(Check t) {
+        StableSale x = new StableSale();
+        x.preferred(10, 100, 0, 0, 100, 0);
+        x.preferred(10, 100, 0, 0, 100, 0);
+        x.preferred(10, 50, 0, 0, 100, 0);
+        t.due(0, x.set(2000000000));
+        x.issue(0, 0, 100, 10);
+        t.due(0, x.set(2000000000));
+        x.issue(2, 1, 100, 10);
+        t.due(2, x.set(2000000000));
+        x.issue(3, 1, 100, 10);
+        t.due(6, x.set(2000000000));
+        x.convert(2, 1, 100);
+        t.due(4, x.set(2000000000));
+    }
+
+    private static void noSetIsStable(Check t) {
+        StableSale x = Stable.withoutSet();
+        // Class 2 comes one unit above its most by a remainder: class 1 converts for one unit more,
+        // then class 2 for one more, then class 1 turns back for its cap, and then class 2 too.
+        int[][] due = {{370, 556}, {371, 555}, {400, 526}, {370, 556}};
+        for (int set = 0; set < 4; set++) {
+            t.due(due[set][0], x.gets(926, set, 1));
+            t.due(due[set][1], x.gets(926, set, 2));
+        }
+        t.due(StableSale.NONE, x.set(926));
+        t.due(0, x.set(925));
+    }
+
+    private static void firstOfSeveralStableOnes(Check t) {
+        StableSale x = new StableSale();
+        x.preferred(2, 100, 0, 2, 249, 0);
+        x.preferred(2, 100, 2, 2, 100, 0);
+        x.preferred(1, 200, 2, 2, 400, 0);
+        x.preferred(2, 100, 2, 0, 547, 0);
+        x.issue(4, 4, 1, 1);
+        x.issue(3, 3, 2, 1);
+        x.issue(2, 2, 1, 1);
+        x.issue(1, 1, 1, 1);
+        x.issue(0, 0, 2, 1);
+        if (!Stable.sets(x, 2003, 4).equals(java.util.List.of(2, 8, 10))) {
+            t.report("the stable sets are " + Stable.sets(x, 2003, 4));
+        }
+        t.due(2, x.set(2003));
+        for (int amount = 0; amount < 6000; amount += 7) {
+            t.due(Stable.first(x, amount, 4), x.set(amount));
+        }
+    }
+}
