@@ -580,7 +580,8 @@ public final class StableSale {
             for (int i = 0; i < count && left > 0; i++) {
                 int next = greatestRemainder(count);
                 parts[next]++;
-                remainders[next] = NONE;
+                // Below every remainder, so that it gets no second unit.
+                remainders[next] = -1;
                 left--;
             }
             return parts;
@@ -685,11 +686,13 @@ public final class StableSale {
         void prepare(Ledger ledger, int set) {
             for (int c = 0; c < CLASSES; c++) {
                 ShareClass one = ledger.classes[c];
-                boolean ordinary = c == COMMON || contains(set, c);
-                boolean shares = ordinary || one.kind == SHARING || one.kind == SHARING_TO_CAP;
-                preferences[c] = ordinary ? 0 : one.preference();
-                weights[c] = shares ? one.inCommon(one.inIssue) : 0;
-                mosts[c] = ordinary || one.kind != SHARING_TO_CAP ? MOST_UNITS : one.mostOfTheRest();
+                boolean asCommon = c == COMMON || contains(set, c);
+                boolean takesPart = asCommon || one.kind == SHARING || one.kind == SHARING_TO_CAP;
+                boolean hasMost = !asCommon && one.kind == SHARING_TO_CAP;
+                preferences[c] = asCommon ? 0 : one.preference();
+                weights[c] = takesPart ? one.inCommon(one.inIssue) : 0;
+                // No part is above the greatest amount, so this stands for having no most.
+                mosts[c] = hasMost ? one.mostOfTheRest() : MOST_UNITS;
             }
         }
 

@@ -4,6 +4,7 @@ public final class P17SetTest {
         wrongInputs(t);
         converts(t);
         onlyClassesInIssue(t);
+        everySetCanBeTheOne(t);
         noSetIsStable(t);
         firstOfSeveralStableOnes(t);
         t.end();
@@ -56,6 +57,20 @@ public final class P17SetTest {
         t.due(6, x.set(2000000000));
         x.convert(2, 1, 100);
         t.due(4, x.set(2000000000));
+    }
+
+    private static void everySetCanBeTheOne(Check t) {
+        for (int set = 0; set < 16; set++) {
+            StableSale x = new StableSale();
+            x.issue(0, 0, 10, 1);
+            for (int c = 1; c <= 4; c++) {
+                // A sharing class loses its preference by converting, a plain one gains a part of much.
+                x.preferred(1, 100, 0, (set >> c - 1 & 1) == 1 ? 0 : 1, 100, 0);
+                x.issue(c, c, 10, 1);
+            }
+            t.due(set, x.set(1000000));
+            t.due(0, x.set(1000));
+        }
     }
 
     private static void noSetIsStable(Check t) {

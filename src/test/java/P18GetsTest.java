@@ -7,6 +7,7 @@ public final class P18GetsTest {
         kindsAndTheRest(t);
         capsOneBehindTheOther(t);
         weightsAreAsConverted(t);
+        oneShare(t);
         greatNumbers(t);
         t.end();
     }
@@ -37,6 +38,16 @@ public final class P18GetsTest {
         t.due(0, x.gets(5, 2, 1));
         t.due(0, x.gets(5, 0, 0));
         t.due(5, x.gets(5, 2, 2));
+
+        StableSale four = new StableSale();
+        for (int c = 1; c <= 4; c++) {
+            four.preferred(10, 100, 0, 0, 100, 0);
+            four.issue(c, 0, 10, 10);
+        }
+        t.throwsArgument(() -> four.gets(5, -1, 0));
+        t.throwsArgument(() -> four.gets(5, 16, 0));
+        t.throwsArgument(() -> four.gets(5, 31, 0));
+        t.due(0, four.gets(5, 15, 0));
     }
 
     private static void due(Check t, StableSale x, int amount, int set, int... parts) {
@@ -146,6 +157,19 @@ public final class P18GetsTest {
         due(t, x, 1500 + 1700, 0, 0, 1000, 1500 + 700);
         due(t, x, 1700, 1, 0, 1000, 700);
         due(t, x, 1701, 1, 0, 1001, 700);
+    }
+
+    private static void oneShare(Check t) {
+        StableSale x = new StableSale();
+        x.issue(0, 0, 1, 1);
+        due(t, x, 7, 0, 0, 7);
+
+        StableSale capped = new StableSale();
+        capped.preferred(1, 100, 0, 2, 200, 0);
+        capped.issue(1, 0, 1, 1);
+        due(t, capped, 150, 0, 0, 0, 150);
+        due(t, capped, 300, 0, 100, 0, 200);
+        due(t, capped, 300, 1, 0, 0, 300);
     }
 
     private static void greatNumbers(Check t) {
