@@ -1,7 +1,7 @@
 public final class P17SetTest {
     public static void main(String[] args) {
         Check t = new Check();
-        wrongInputs(t);
+        boundsOfTheAmount(t);
         converts(t);
         onlyClassesInIssue(t);
         everySetCanBeTheOne(t);
@@ -10,14 +10,9 @@ public final class P17SetTest {
         t.end();
     }
 
-    private static void wrongInputs(Check t) {
-        StableSale x = new StableSale();
-        t.throwsArgument(() -> x.set(-1));
-        t.throwsArgument(() -> x.set(2000000001));
-        t.throwsArgument(() -> x.set(Integer.MIN_VALUE));
-        t.throwsArgument(() -> x.set(Integer.MAX_VALUE));
-        t.due(0, x.set(0));
-        t.due(0, x.set(2000000000));
+    private static void boundsOfTheAmount(Check t) {
+        t.argumentFrom(0, 2000000000, amount -> new StableSale().set(amount));
+        t.argumentFrom(0, 2000000000, amount -> Stable.withoutSet().set(amount));
     }
 
     private static void converts(Check t) {
@@ -86,7 +81,7 @@ public final class P17SetTest {
         t.due(0, x.set(925));
     }
 
-    private static void firstOfSeveralStableOnes(Check t) {
+    private static StableSale withSeveralStableOnes() {
         StableSale x = new StableSale();
         x.preferred(2, 100, 0, 2, 249, 0);
         x.preferred(2, 100, 2, 2, 100, 0);
@@ -97,11 +92,13 @@ public final class P17SetTest {
         x.issue(2, 2, 1, 1);
         x.issue(1, 1, 1, 1);
         x.issue(0, 0, 2, 1);
-        if (!Stable.sets(x, 2003, 4).equals(java.util.List.of(2, 8, 10))) {
-            t.report("the stable sets are " + Stable.sets(x, 2003, 4));
-        }
-        t.due(2, x.set(2003));
+        return x;
+    }
+
+    private static void firstOfSeveralStableOnes(Check t) {
+        t.due(2, withSeveralStableOnes().set(2003));
         for (int amount = 0; amount < 6000; amount += 7) {
+            StableSale x = withSeveralStableOnes();
             t.due(Stable.first(x, amount, 4), x.set(amount));
         }
     }

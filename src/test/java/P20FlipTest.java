@@ -1,7 +1,8 @@
 public final class P20FlipTest {
     public static void main(String[] args) {
         Check t = new Check();
-        wrongInputs(t);
+        boundsOfEachAmount(t);
+        lowIsLess(t);
         oneFlip(t);
         severalFlips(t);
         greatNumbers(t);
@@ -9,18 +10,25 @@ public final class P20FlipTest {
         t.end();
     }
 
-    private static void wrongInputs(Check t) {
-        StableSale x = new StableSale();
-        t.throwsArgument(() -> x.flip(5, 5));
-        t.throwsArgument(() -> x.flip(6, 5));
-        t.throwsArgument(() -> x.flip(-1, 5));
-        t.throwsArgument(() -> x.flip(0, 2000000001));
-        t.throwsArgument(() -> x.flip(-2, -1));
-        t.throwsArgument(() -> x.flip(2000000001, 2000000002));
-        t.throwsArgument(() -> x.flip(Integer.MIN_VALUE, Integer.MAX_VALUE));
-        t.due(StableSale.NONE, x.flip(0, 1));
-        t.due(StableSale.NONE, x.flip(1999999999, 2000000000));
-        t.due(StableSale.NONE, x.flip(0, 2000000000));
+    private static void boundsOfEachAmount(Check t) {
+        t.argumentFrom(0, 1999999999, low -> new StableSale().flip(low, 2000000000));
+        t.argumentFrom(1, 2000000000, high -> new StableSale().flip(0, high));
+        t.throwsArgument(() -> new StableSale().flip(-2, -1));
+        t.throwsArgument(() -> new StableSale().flip(-1, 0));
+        t.throwsArgument(() -> new StableSale().flip(2000000000, 2000000001));
+        t.throwsArgument(() -> new StableSale().flip(2000000001, 2000000002));
+        t.throwsArgument(() -> new StableSale().flip(Integer.MIN_VALUE, Integer.MAX_VALUE));
+    }
+
+    private static void lowIsLess(Check t) {
+        for (int n : new int[] {0, 1, 5, 1999999999, 2000000000}) {
+            t.throwsArgument(() -> new StableSale().flip(n, n));
+            t.throwsArgument(() -> new StableSale().flip(n, n - 1));
+        }
+        t.due(StableSale.NONE, new StableSale().flip(0, 1));
+        t.due(StableSale.NONE, new StableSale().flip(4, 5));
+        t.due(StableSale.NONE, new StableSale().flip(1999999999, 2000000000));
+        t.throwsArgument(() -> new StableSale().flip(2000000000, 0));
     }
 
     private static void oneFlip(Check t) {
@@ -50,7 +58,7 @@ public final class P20FlipTest {
         return (int) high;
     }
 
-    private static void severalFlips(Check t) {
+    private static StableSale withSeveralFlips() {
         StableSale x = new StableSale();
         x.preferred(1, 100, 0, 0, 100, 0);
         x.preferred(2, 100, 0, 0, 100, 0);
@@ -59,6 +67,11 @@ public final class P20FlipTest {
         x.issue(1, 1, 10, 10);
         x.issue(2, 1, 10, 10);
         x.issue(3, 1, 10, 10);
+        return x;
+    }
+
+    private static void severalFlips(Check t) {
+        StableSale x = withSeveralFlips();
         int flips = 0;
         int low = 0;
         for (int at = x.flip(low, 100000); at != StableSale.NONE; at = x.flip(low, 100000)) {
@@ -72,8 +85,9 @@ public final class P20FlipTest {
         t.due(3, flips);
         t.due(7, x.set(low));
         for (int high = 1; high < 30000; high += 611) {
-            boolean same = x.set(0) == x.set(high);
-            t.due(same ? StableSale.NONE : halved(x, 0, high), x.flip(0, high));
+            StableSale y = withSeveralFlips();
+            boolean same = y.set(0) == y.set(high);
+            t.due(same ? StableSale.NONE : halved(y, 0, high), y.flip(0, high));
         }
     }
 

@@ -1,49 +1,15 @@
-import java.util.ArrayList;
 import java.util.List;
 
 public final class P21UndoTest {
     public static void main(String[] args) {
         Check t = new Check();
         takesEachCallBack(t);
+        sevenEightAndNine(t);
         eightAtMost(t);
         whatDoesNotCount(t);
         whatChangesNothingCounts(t);
         newCallsBehindUndo(t);
         t.end();
-    }
-
-    /** All that questions can tell. */
-    private static List<Integer> all(StableSale x) {
-        List<Integer> answers = new ArrayList<>();
-        int classes = 0;
-        for (int c = 0; c <= 4; c++) {
-            try {
-                answers.add(x.inIssue(c));
-                classes = c;
-            } catch (RuntimeException e) {
-                answers.add(-7);
-            }
-        }
-        for (int c = 0; c <= classes; c++) {
-            for (int holder = 0; holder < 8; holder++) {
-                answers.add(x.held(c, holder));
-            }
-            answers.add(c == 0 ? 0 : x.conversion(c));
-        }
-        for (int g = 0; g < 10; g++) {
-            try {
-                answers.add(x.vested(g));
-            } catch (RuntimeException e) {
-                answers.add(-7);
-            }
-        }
-        answers.add(x.granted());
-        answers.add(x.asConverted());
-        for (int amount : new int[] {0, 999, 54321, 987654, 2000000000}) {
-            answers.add(x.set(amount));
-            answers.add(x.brings(amount, 1));
-        }
-        return answers;
     }
 
     private static StableSale begun() {
@@ -59,30 +25,53 @@ public final class P21UndoTest {
         return x;
     }
 
-    private static void takesBack(Check t, StableSale x, Check.Call call) {
-        List<Integer> before = all(x);
-        int answer = call.answer();
-        int more = x.undo();
-        t.due(7, more);
-        if (!all(x).equals(before)) {
+    private interface Change {
+        int on(StableSale x);
+    }
+
+    private static void takesBack(Check t, Change change) {
+        StableSale x = begun();
+        List<Integer> before = Picture.of(x);
+        int answer = change.on(x);
+        t.due(7, x.undo());
+        if (!Picture.of(x).equals(before)) {
             t.report("not all is as before");
         }
-        t.due(answer, call.answer());
-        x.undo();
+        t.due(answer, change.on(x));
+        t.due(7, x.undo());
+        // The month and the pool, which no question tells.
+        t.due(5, x.pass(0));
+        t.due(500, x.pool(500));
     }
 
     private static void takesEachCallBack(Check t) {
-        StableSale x = begun();
-        takesBack(t, x, () -> x.preferred(7, 100, 0, 0, 100, 0));
-        takesBack(t, x, () -> x.issue(0, 5, 50, 1));
-        takesBack(t, x, () -> x.issue(2, 5, 50, 1));
-        takesBack(t, x, () -> x.transfer(1, 1, 4, 30));
-        takesBack(t, x, () -> x.convert(2, 2, 30));
-        takesBack(t, x, () -> x.pool(100));
-        takesBack(t, x, () -> x.grant(3, 400, 0, 3));
-        takesBack(t, x, () -> x.pass(3));
-        takesBack(t, x, () -> x.leave(3));
-        takesBack(t, x, () -> x.exercise(0, 50));
+        takesBack(t, x -> x.preferred(7, 100, 0, 0, 100, 0));
+        takesBack(t, x -> x.issue(0, 5, 50, 1));
+        takesBack(t, x -> x.issue(2, 5, 50, 1));
+        takesBack(t, x -> x.transfer(1, 1, 4, 30));
+        takesBack(t, x -> x.convert(2, 2, 30));
+        takesBack(t, x -> x.pool(100));
+        takesBack(t, x -> x.grant(3, 400, 0, 3));
+        takesBack(t, x -> x.pass(3));
+        takesBack(t, x -> x.leave(3));
+        takesBack(t, x -> x.exercise(0, 50));
+    }
+
+    private static void sevenEightAndNine(Check t) {
+        for (int changes = 7; changes <= 9; changes++) {
+            StableSale x = new StableSale();
+            for (int i = 0; i < changes; i++) {
+                x.pass(1);
+            }
+            for (int more = Math.min(changes, 8) - 1; more >= 0; more--) {
+                t.due(more, x.undo());
+            }
+            t.throwsState(() -> x.undo());
+            t.throwsState(() -> x.undo());
+            t.due(Math.max(0, changes - 8), x.pass(0));
+            t.due(0, x.undo());
+            t.throwsState(() -> x.undo());
+        }
     }
 
     private static void eightAtMost(Check t) {

@@ -2,15 +2,17 @@ import java.util.Map;
 import java.util.Random;
 import java.util.TreeMap;
 
-/** Runs of calls by chance, always the same ones, each answer held against the plain model's. */
+/** Runs of 512 calls by chance, always the same ones, each answer held against the plain model's. */
 public final class RandomRunsTest {
     private static final int RUNS = 600;
-    private static final int CALLS = 250;
+    private static final int MOST_CALLS = 512;
+    private static final int FIRST_STEPS = 25;
 
     private final Random random;
     private final int run;
     private final StableSale x = new StableSale();
     private final PlainModel y = new PlainModel();
+    private int calls = 0;
     private static final Check T = new Check();
     private static final Map<String, Integer> SEEN = new TreeMap<>();
 
@@ -23,8 +25,8 @@ public final class RandomRunsTest {
         int runs = args.length > 0 ? Integer.parseInt(args[0]) : RUNS;
         for (int run = 0; run < runs; run++) {
             RandomRunsTest test = new RandomRunsTest(run);
-            for (int call = 0; call < CALLS; call++) {
-                test.step(call);
+            for (int step = 0; test.calls < MOST_CALLS; step++) {
+                test.step(step);
             }
         }
         if (args.length > 0) {
@@ -34,6 +36,10 @@ public final class RandomRunsTest {
     }
 
     private void same(String call, Check.Call program, Check.Call model) {
+        if (calls == MOST_CALLS) {
+            return;
+        }
+        calls++;
         String got = answerOf(program);
         String want = answerOf(model);
         String name = call.substring(0, call.indexOf('('));
@@ -101,9 +107,9 @@ public final class RandomRunsTest {
         }
     }
 
-    private void step(int call) {
-        int kind = random.nextInt(call < 25 ? 55 : 100);
-        if (call < 8 && random.nextInt(3) == 0 || kind < 3) {
+    private void step(int step) {
+        int kind = random.nextInt(step < FIRST_STEPS ? 55 : 100);
+        if (step < 8 && random.nextInt(3) == 0 || kind < 3) {
             int[] n = {run % 2 == 0 ? number(1, 12) : number(1, 1000), number(50, 300), number(0, 3),
                 number(0, 2), number(100, 900), number(0, 2)};
             same("preferred(" + n[0] + " " + n[1] + " " + n[2] + " " + n[3] + " " + n[4] + " " + n[5] + ")",

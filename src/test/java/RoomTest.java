@@ -38,7 +38,8 @@ public final class RoomTest {
         }
         x.pool(1000);
         x.grant(0, 1000, 0, 60);
-        for (int i = 0; i < 40; i++) {
+        // With these rounds and the eleven calls before them, 512 calls less one.
+        for (int i = 0; i < 50; i++) {
             x.issue(0, 0, 10, 30 - i / 2);
             x.transfer(0, 0, 1, 5);
             x.convert(1, 1, 1);

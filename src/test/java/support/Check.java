@@ -6,6 +6,11 @@ final class Check {
         int answer();
     }
 
+    /** A call of which one number is tried. */
+    interface CallWith {
+        int answer(int number);
+    }
+
     private int wrong = 0;
 
     void due(long want, long got) {
@@ -26,6 +31,16 @@ final class Check {
         throwsOne(NoSuchElementException.class, call);
     }
 
+    /** Taken on both bounds and one within, refused one outside and far outside. */
+    void argumentFrom(int low, int high, CallWith call) {
+        bounds(IllegalArgumentException.class, low, high, call);
+    }
+
+    /** Known on both bounds and one within, missing one outside and far outside. */
+    void elementsFrom(int low, int high, CallWith call) {
+        bounds(NoSuchElementException.class, low, high, call);
+    }
+
     void report(String what) {
         wrong++;
         StackTraceElement asker = asker();
@@ -36,6 +51,19 @@ final class Check {
         if (wrong != 0) {
             System.out.println(wrong + " answers are not as due");
             System.exit(1);
+        }
+    }
+
+    private void bounds(Class<?> outside, int low, int high, CallWith call) {
+        for (int number : new int[] {low, Math.min(low + 1, high), Math.max(low, high - 1), high}) {
+            try {
+                call.answer(number);
+            } catch (RuntimeException e) {
+                report("threw " + e.getClass().getSimpleName() + " with " + number);
+            }
+        }
+        for (int number : new int[] {low - 1, high + 1, Integer.MIN_VALUE, Integer.MAX_VALUE}) {
+            throwsOne(outside, () -> call.answer(number));
         }
     }
 
@@ -52,7 +80,7 @@ final class Check {
 
     private static StackTraceElement asker() {
         for (StackTraceElement element : new Throwable().getStackTrace()) {
-            if (!element.getClassName().equals("Check")) {
+            if (!element.getClassName().startsWith("Check")) {
                 return element;
             }
         }
