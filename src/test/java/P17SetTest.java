@@ -99,7 +99,7 @@ public final class P17SetTest {
         t.due(2, withSeveralStableOnes().set(2003));
         for (int amount = 0; amount < 6000; amount += 7) {
             StableSale x = withSeveralStableOnes();
-            t.due(Stable.first(x, amount, 4), x.set(amount));
+            t.due(Stable.first(x, amount), x.set(amount));
         }
     }
 }

@@ -6,6 +6,7 @@ public final class P20FlipTest {
         oneFlip(t);
         severalFlips(t);
         greatNumbers(t);
+        theMiddleIsRoundedDown(t);
         noSetIsASetToo(t);
         t.end();
     }
@@ -101,6 +102,17 @@ public final class P20FlipTest {
         t.due(1500000002, x.flip(0, 2000000000));
         t.due(1500000002, x.flip(1400000000, 2000000000));
         t.due(1500000002, x.flip(1500000001, 2000000000));
+    }
+
+    private static void theMiddleIsRoundedDown(Check t) {
+        StableSale x = Stable.withoutSet();
+        t.due(0, x.set(955));
+        t.due(2, x.set(956));
+        // The first middle is 925, 926, 926 and 927; only 926 has another set than the amounts beside it.
+        t.due(956, x.flip(851, 1000));
+        t.due(926, x.flip(852, 1000));
+        t.due(926, x.flip(853, 1000));
+        t.due(956, x.flip(854, 1000));
     }
 
     private static void noSetIsASetToo(Check t) {

@@ -38,7 +38,7 @@ public final class RoomTest {
         }
         x.pool(1000);
         x.grant(0, 1000, 0, 60);
-        // With these rounds and the eleven calls before them, 512 calls less one.
+        // With the ten calls before and the one behind, nearly the 512 that an object is used for.
         for (int i = 0; i < 50; i++) {
             x.issue(0, 0, 10, 30 - i / 2);
             x.transfer(0, 0, 1, 5);

@@ -12,6 +12,7 @@ public final class T06RestTest {
         bothAreAboveAtOnce(t);
         whoConvertsHasNoMost(t);
         greatestMost(t);
+        greatRestRoundTheMost(t);
         noWeights(t);
         noWeightsAreLeft(t);
         t.end();
@@ -172,6 +173,19 @@ public final class T06RestTest {
         }
         Parts.due(t, two, 1999999999, 0, 0, 0, 1999999999);
         Parts.due(t, two, 2000000000, 0, 0, 0, 2000000000);
+    }
+
+    private static void greatRestRoundTheMost(Check t) {
+        StableSale x = new StableSale();
+        x.preferred(1000, 50, 0, 2, 900, 0);
+        x.issue(0, 0, 1000, 1000);
+        x.issue(1, 1, 1000, 1000);
+        // A preference of 50000000 units and a most of 850000000
+        Parts.due(t, x, 1749999999, 0, 0, 850000000, 899999999);
+        Parts.due(t, x, 1750000000, 0, 0, 850000000, 900000000);
+        Parts.due(t, x, 1750000001, 0, 0, 850000001, 900000000);
+        Parts.due(t, x, 1750000002, 0, 0, 850000002, 900000000);
+        Parts.due(t, x, 2000000000, 0, 0, 1100000000, 900000000);
     }
 
     private static void noWeights(Check t) {

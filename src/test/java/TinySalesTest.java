@@ -1,3 +1,4 @@
+import java.util.Arrays;
 import java.util.Random;
 
 /**
@@ -69,18 +70,10 @@ public final class TinySalesTest {
     }
 
     private static void compareWithoutSet(Check t, int[][] company) {
-        StableSale x = new StableSale();
-        PlainModel y = new PlainModel();
         int at = company[0][0];
-        for (int[] n : company) {
-            if (n.length == 6) {
-                x.preferred(n[0], n[1], n[2], n[3], n[4], n[5]);
-                y.preferred(n[0], n[1], n[2], n[3], n[4], n[5]);
-            } else if (n.length == 4) {
-                x.issue(n[0], n[1], n[2], n[3]);
-                y.issue(n[0], n[1], n[2], n[3]);
-            }
-        }
+        int[][] rows = Arrays.copyOfRange(company, 1, company.length);
+        StableSale x = Company.of(rows);
+        PlainModel y = Company.modelOf(rows);
         t.due(StableSale.NONE, x.set(at));
         compareRound(t, x, y, at);
         t.due(y.flip(at, 2000000000), x.flip(at, 2000000000));

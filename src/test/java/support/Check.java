@@ -80,7 +80,8 @@ final class Check {
 
     private static StackTraceElement asker() {
         for (StackTraceElement element : new Throwable().getStackTrace()) {
-            if (!element.getClassName().startsWith("Check")) {
+            String name = element.getClassName();
+            if (!name.startsWith("Check") && !name.equals("Parts")) {
                 return element;
             }
         }

@@ -6,16 +6,22 @@ final class Stable {
     private Stable() {
     }
 
-    static List<Integer> sets(StableSale x, int amount, int classes) {
+    /** Some two hundred calls. */
+    static List<Integer> sets(StableSale x, int amount) {
         List<Integer> all = new ArrayList<>();
-        for (int many = 0; many <= classes; many++) {
-            for (int set = 0; set < 1 << classes; set++) {
-                if (Integer.bitCount(set) == many && canConvert(x, set, classes) && isStable(x, amount, set, classes)) {
+        for (int many = 0; many <= 4; many++) {
+            for (int set = 0; set < 16; set++) {
+                if (Integer.bitCount(set) == many && canConvert(x, set) && isStable(x, amount, set)) {
                     all.add(set);
                 }
             }
         }
         return all;
+    }
+
+    static int first(StableSale x, int amount) {
+        List<Integer> all = sets(x, amount);
+        return all.isEmpty() ? StableSale.NONE : all.get(0);
     }
 
     /** A company for which no set is stable at 926 units. */
@@ -28,23 +34,19 @@ final class Stable {
         return x;
     }
 
-    static int first(StableSale x, int amount, int classes) {
-        List<Integer> all = sets(x, amount, classes);
-        return all.isEmpty() ? -1 : all.get(0);
-    }
-
-    private static boolean canConvert(StableSale x, int set, int classes) {
-        for (int c = 1; c <= classes; c++) {
-            if ((set >> c - 1 & 1) == 1 && x.inIssue(c) == 0) {
-                return false;
-            }
+    private static boolean canConvert(StableSale x, int set) {
+        try {
+            x.gets(0, set, 0);
+            return true;
+        } catch (IllegalArgumentException e) {
+            return false;
         }
-        return true;
     }
 
-    private static boolean isStable(StableSale x, int amount, int set, int classes) {
-        for (int c = 1; c <= classes; c++) {
-            if (x.inIssue(c) > 0 && x.gets(amount, set ^ 1 << c - 1, c) > x.gets(amount, set, c)) {
+    private static boolean isStable(StableSale x, int amount, int set) {
+        for (int c = 1; c <= 4; c++) {
+            int other = set ^ 1 << c - 1;
+            if (canConvert(x, set | other) && x.gets(amount, other, c) > x.gets(amount, set, c)) {
                 return false;
             }
         }
