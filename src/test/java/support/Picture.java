@@ -1,7 +1,7 @@
 import java.util.ArrayList;
 import java.util.List;
 
-/** All that questions can tell of an object, in some eighty calls of them; questions change nothing. */
+/** All that questions can tell of an object, in some seventy calls; questions change nothing. */
 final class Picture {
     private static final int MISSING = -7;
     private static final int[] AMOUNTS = {0, 999, 54321, 987654, 2000000000};
